@@ -17,7 +17,6 @@ public final class NoonValley {
     private static final int ALL_NEWS = 4;
 
     private final Tape tape = new Tape();
-    private final Reader reader = new Reader(tape);
     private final Valley[] valleys = new Valley[MOST_VALLEYS];
     private final Plan[] plans = new Plan[MOST_PLANS];
     private final Carrying carrying = new Carrying();
@@ -25,8 +24,7 @@ public final class NoonValley {
     private final Shutting shutting = new Shutting();
     private final Gossip gossip = new Gossip();
     private final Trade trade = new Trade();
-    private final Keeping keeping = new Keeping();
-    private final Tree tree = new Tree();
+    private final Cards cards = new Cards();
     private final Chance chance = new Chance();
     // A text is read into this one; only a text without a fault makes it one of the valleys.
     private Valley spare = new Valley();
@@ -46,11 +44,11 @@ public final class NoonValley {
     }
 
     public int fault() {
-        return reader.read(spare);
+        return tape.read(spare);
     }
 
     public int valley() {
-        if (valleyCount >= MOST_VALLEYS || reader.read(spare) != NONE) {
+        if (valleyCount >= MOST_VALLEYS || tape.read(spare) != NONE) {
             return NONE;
         }
         spare.settle();
@@ -301,15 +299,15 @@ public final class NoonValley {
         if (v == null || !v.hasPerson(first)) {
             return NONE;
         }
-        return keeping.hoursTillAllKnow(v, first);
+        return cards.hoursTillAllKnow(v, first);
     }
 
     public int tree(int valley, int first, int one, int i) {
         Valley v = valleyAt(valley);
-        if (v == null || !v.hasPerson(first) || !v.hasPerson(one) || i < NONE || !tree.grow(v, first)) {
+        if (v == null || !v.hasPerson(first) || !v.hasPerson(one) || i < NONE || !cards.growTree(v, first)) {
             return NONE;
         }
-        return i == NONE ? tree.time[one] : tree.below(one, i);
+        return i == NONE ? cards.time[one] : cards.below(one, i);
     }
 
     public int breaks(int plan, int i) {
@@ -381,7 +379,7 @@ public final class NoonValley {
             open &= ~now;
         }
         wrong |= open;
-        return wrong == 0 ? NONE : Integer.numberOfTrailingZeros(wrong);
+        return lowestOf(wrong);
     }
 
     public int count(int what) {
@@ -423,12 +421,26 @@ public final class NoonValley {
         return (set >> one & 1) != 0;
     }
 
-    /** The bytes that have come and are no valley yet. */
+    /** NONE: nobody is in the set. */
+    private static int lowestOf(int people) {
+        for (int one = 0; one < MOST_PEOPLE; one++) {
+            if (has(people, one)) {
+                return one;
+            }
+        }
+        return NONE;
+    }
+
+    /**
+     * The bytes that have come and are no valley yet. Where a method that reads them tells that it
+     * fails, the place is that of the fault.
+     */
     private static final class Tape {
         private static final int MOST = 400;
 
         private final int[] bytes = new int[MOST];
         private int length;
+        private int place;
 
         int append(int a, int b, int c, int d, int e) {
             int more = bytesIn(a) + bytesIn(b) + bytesIn(c) + bytesIn(d) + bytesIn(e);
@@ -452,8 +464,8 @@ public final class NoonValley {
         }
 
         /** The byte at a place; NONE behind the last one. */
-        int at(int place) {
-            return place < 0 || place >= length ? NONE : bytes[place];
+        private int at(int where) {
+            return where < 0 || where >= length ? NONE : bytes[where];
         }
 
         private static int bytesIn(int number) {
@@ -475,23 +487,13 @@ public final class NoonValley {
                 }
             }
         }
-    }
 
-    /** Reads the text of a valley. Where a method tells that it fails, the place is that of the fault. */
-    private static final class Reader {
-        private final Tape tape;
-        private int place;
-
-        Reader(Tape tape) {
-            this.tape = tape;
-        }
-
-        /** The fault of the tape, or NONE; what it tells up to there is in the valley. */
+        /** The fault, or NONE; what the text tells up to there is in the valley. */
         int read(Valley into) {
             place = 0;
             into.forget();
             skipBlanks();
-            if (tape.at(place) != 'p') {
+            if (at(place) != 'p') {
                 return place;
             }
             place++;
@@ -500,8 +502,8 @@ public final class NoonValley {
                 return place;
             }
             skipBlanks();
-            while (place < tape.length) {
-                if (tape.at(place) != ';') {
+            while (place < length) {
+                if (at(place) != ';') {
                     return place;
                 }
                 place++;
@@ -515,13 +517,13 @@ public final class NoonValley {
         }
 
         private void skipBlanks() {
-            while (place < tape.length && tape.at(place) == ' ') {
+            while (place < length && at(place) == ' ') {
                 place++;
             }
         }
 
         private boolean statement(Valley into) {
-            switch (tape.at(place)) {
+            switch (at(place)) {
                 case 'l':
                     return lineOf(into, 0);
                 case 'o':
@@ -595,10 +597,10 @@ public final class NoonValley {
             if (place == start || !isDigit(place)) {
                 return NONE;
             }
-            int value = tape.at(place) - '0';
+            int value = at(place) - '0';
             if (isDigit(place + 1)) {
                 place++;
-                value = value * 10 + tape.at(place) - '0';
+                value = value * 10 + at(place) - '0';
             }
             if (value < lowest || value > highest || value == unlike) {
                 return NONE;
@@ -608,7 +610,7 @@ public final class NoonValley {
         }
 
         private boolean isDigit(int where) {
-            int one = tape.at(where);
+            int one = at(where);
             return one >= '0' && one <= '9';
         }
     }
@@ -1770,12 +1772,18 @@ public final class NoonValley {
         }
     }
 
-    /** Everybody calls along its card. */
-    private static final class Keeping {
-        private final int[] called = new int[MOST_PEOPLE];
+    /** Calls along the cards that are kept, and those cards that a tree of lines makes. */
+    private static final class Cards {
         private Valley valley;
         private int known;
         private int once;
+        // How many on its card each one has called.
+        private final int[] called = new int[MOST_PEOPLE];
+        // Of the tree: those below each one, and all from the one who begins on, each behind the one
+        // above it.
+        private final int[] time = new int[MOST_PEOPLE];
+        private final int[] children = new int[MOST_PEOPLE];
+        private final int[] order = new int[MOST_PEOPLE];
 
         /** NONE: not by the last hour. */
         int hoursTillAllKnow(Valley where, int first) {
@@ -1807,29 +1815,20 @@ public final class NoonValley {
             known |= heard & (~valley.deaf | once);
             once |= heard;
         }
-    }
-
-    /** The tree of lines below one who begins. */
-    private static final class Tree {
-        private final int[] time = new int[MOST_PEOPLE];
-        // Those below each one, as bits.
-        private final int[] children = new int[MOST_PEOPLE];
-        // From the one who begins on, each behind the one above it.
-        private final int[] order = new int[MOST_PEOPLE];
 
         /** False: the lines are no tree. */
-        boolean grow(Valley valley, int first) {
-            if (valley.twoWayLines() != valley.people - 1 || !valley.holdsTogether()) {
+        boolean growTree(Valley where, int first) {
+            if (where.twoWayLines() != where.people - 1 || !where.holdsTogether()) {
                 return false;
             }
             int met = 1 << first;
             int count = 1;
             order[0] = first;
-            for (int i = 0; i < count; i++) {
+            for (int i = 0; i < count && i < MOST_PEOPLE; i++) {
                 int one = order[i];
-                children[one] = valley.neighbours(one) & ~met;
+                children[one] = where.neighbours(one) & ~met;
                 met |= children[one];
-                for (int other = 0; other < valley.people; other++) {
+                for (int other = 0; other < where.people; other++) {
                     if (has(children[one], other) && count < MOST_PEOPLE) {
                         order[count] = other;
                         count++;
