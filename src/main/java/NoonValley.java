@@ -1422,7 +1422,7 @@ public final class NoonValley {
                 boolean ends = has(comeTo[place], hours) && isDone(knownIn(stateAt[place]));
                 good[place] = ends ? 1 << hours : 0;
             }
-            for (int gone = hours - 1; gone >= 0; gone--) {
+            for (int gone = hours - 1; gone >= 1; gone--) {
                 for (int place = 0; place < STATES; place++) {
                     if (has(comeTo[place], gone)
                             && lowestGood(stateAt[place], hour + gone, gone + 1) != NONE) {

@@ -144,6 +144,16 @@ public final class PromiseTest {
     faultIs("p 3;p 3", 4);
     faultIs("p 3;d 0;  p 3", 10);
     faultIs("p 3;x", 4);
+    faultIs("p 3;l", 5);
+    faultIs("p 3;l ", 6);
+    faultIs("p 3;l;d 0", 5);
+    faultIs("p 3;o 1", 7);
+    faultIs("p 3;o 1;d 0", 7);
+    faultIs("p 3;l 1 0", 9);
+    faultIs("p 3;l 1 0;d 0", 9);
+    faultIs("p 3;k", 5);
+    faultIs("p 3;w;d 0", 5);
+    faultIs("p 3;s 1;d 0", 7);
     faultIs("p 3;l 0 1 1", 11);
     faultIs("p 3;l 0 1 1;", 11);
     faultIs("p 3;o 0 1 1 1", NONE);
@@ -219,6 +229,7 @@ public final class PromiseTest {
     Check.same("there are ten", x.valley(), NONE);
     Check.same("the tape stays", x.count(3), 3);
     Check.same("still ten", x.count(0), 10);
+    Check.same("no eleventh", x.told(10, 0), NONE);
     for (int i = 1; i < 10; i++) {
       Check.same("each its own", x.told(i, 0), i % 7 + 1);
     }
@@ -320,6 +331,8 @@ public final class PromiseTest {
     }
     Check.same("there are twelve", x.plan(0), NONE);
     Check.same("still twelve", x.count(1), 12);
+    Check.same("no thirteenth", x.unlawful(12), NONE);
+    Check.same("no thirteenth to call in", x.call(12, 1, 0, 0, 1), NONE);
     Check.same("of valley 0", x.known(2, 0, 0), 1);
     Check.same("of valley 1", x.known(3, 1, 0), 8);
     x.call(2, 1, 1, 0, 1);
@@ -496,6 +509,13 @@ public final class PromiseTest {
     x.call(0, 24, 1, 1, 2);
     Check.same("broken", x.when(0, 0), 24);
     Check.same("done", x.when(0, 1), 24);
+    x.down(0, 1, 24);
+    Check.same("not broken by a line that is down", x.when(0, 0), NONE);
+    x.call(0, 23, 1, 1, 2);
+    x.call(0, 3, 1, 2, 1);
+    x.down(0, 0, 2);
+    Check.same("broken alone", x.when(0, 0), 23);
+    Check.same("not done", x.when(0, 1), NONE);
     Check.same("what 2", x.when(0, 2), NONE);
     Check.same("what -1", x.when(0, -1), NONE);
     Check.same("plan 1", x.when(1, 0), NONE);
@@ -654,6 +674,9 @@ public final class PromiseTest {
     addedIs("p 3;k 0 0;w 2 0;s 2 0", 0, 1, 0);
     addedIs("p 4;l 0 1 1 24;l 0 2 9 24;k 0 0;w 1 0;w 2 0", 1, 2, 7);
     addedIs("p 3;l 0 2 1 24;k 0 0;w 2 0;d 2", 0, 1, 0);
+    addedIs("p 3;o 2 0 1 24;l 0 1 23 23;k 0 0;w 2 0", 1, 2, 1);
+    addedIs("p 3;l 0 1 1 24;k 0 0;w 2 0;s 2 0;k 1 0", 0, 2, 0);
+    addedIs("p 4;o 2 0 1 24;l 0 1 1 24;k 0 0;w 2 0;s 3 0", 1, 2, 23);
     NoonValley x = Check.of("p 3;l 0 1 1 24;k 0 0;w 1 0");
     x.down(0, 0, 1);
     Check.same("a line that is down is a line", x.added(0, 0, 0), 0);
@@ -887,6 +910,10 @@ public final class PromiseTest {
     Check.same("3 first", x.tree(0, 5, 0, 0), 3);
     Check.same("then 2", x.tree(0, 5, 0, 1), 2);
     Check.same("then none", x.tree(0, 5, 0, 2), NONE);
+    for (int one = 0; one < 7; one++) {
+      Check.same("time of " + one + " again", x.tree(0, 0, one, NONE), times[one]);
+    }
+    Check.same("of those alone", x.tree(0, 6, 5, NONE), 0);
     Check.same("i -2", x.tree(0, 0, 0, -2), NONE);
     Check.same("first 7", x.tree(0, 7, 0, 0), NONE);
     Check.same("one 7", x.tree(0, 0, 7, 0), NONE);
@@ -969,6 +996,9 @@ public final class PromiseTest {
     NoonValley w = Check.of("p 2;k 0 0;w 0 1");
     w.plan(0);
     Check.same("without 1 it fails, without 0 not", w.breaker(0), 1);
+    NoonValley v = Check.of("p 1;w 0 0");
+    v.plan(0);
+    Check.same("nobody else need know", v.breaker(0), NONE);
   }
 
   private static void ways() {
@@ -1116,6 +1146,12 @@ public final class PromiseTest {
     Check.same("too late a tale", x.fits(0, 0), 1);
     x.tale(0, 0, 0, 1);
     Check.same("at first, not later", x.fits(0, 0), 0);
+    x.tale(0, 0, 0, NONE);
+    x.tale(0, 0, 1, NONE);
+    x.tale(0, 0, 2, NONE);
+    x.tale(0, 0, 3, 24);
+    x.call(0, 24, 1, 2, 3);
+    Check.same("in the last hour", x.fits(0, 0), NONE);
     Check.same("another news", x.fits(0, 1), NONE);
     x.tale(0, 1, 2, 0);
     Check.same("not at first", x.fits(0, 1), 2);
