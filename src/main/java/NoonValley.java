@@ -1089,10 +1089,15 @@ public final class NoonValley {
                     continue;
                 }
                 long set = lost | 1L << call;
-                if (more > 1 ? findBreaking(plan, set, call + 1, more - 1) : !bears(plan, set, NONE)) {
-                    if (more <= 1) {
-                        breaking = set;
+                if (more > 1) {
+                    if (findBreaking(plan, set, call + 1, more - 1)) {
+                        return true;
                     }
+                    continue;
+                }
+                carry(plan, LAST_HOUR, set, NONE);
+                if (!isDone(plan.valley, NONE)) {
+                    breaking = set;
                     return true;
                 }
             }
@@ -1162,11 +1167,8 @@ public final class NoonValley {
             }
         }
 
-        void findAll() {
-            fill(0, 0, 0, 0);
-        }
-
-        private void fill(int one, int called, int silent, int row) {
+        /** Finds all rows, when those ahead of this one call these people in this row, or are silent. */
+        private void findAll(int one, int called, int silent, int row) {
             if (one >= people) {
                 take(called, silent, row);
                 return;
@@ -1174,10 +1176,10 @@ public final class NoonValley {
             int choice = choices[one] & ~called;
             for (int other = 0; other < people; other++) {
                 if (has(choice, other)) {
-                    fill(one + 1, called | 1 << other, silent, row | other << one * BITS);
+                    findAll(one + 1, called | 1 << other, silent, row | other << one * BITS);
                 }
             }
-            fill(one + 1, called, silent | 1 << one, row | NO_ONE << one * BITS);
+            findAll(one + 1, called, silent | 1 << one, row | NO_ONE << one * BITS);
         }
 
         private void take(int called, int silent, int row) {
@@ -1355,7 +1357,7 @@ public final class NoonValley {
             for (int one = 0; one < people; one++) {
                 rows.append(has(known, one) ? callable[hour * MOST_PEOPLE + one] & targets & ~known : 0);
             }
-            rows.findAll();
+            rows.findAll(0, 0, 0, 0);
         }
 
         private int stateAfter(int state, int called) {

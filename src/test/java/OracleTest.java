@@ -420,11 +420,16 @@ public final class OracleTest {
 
   private static void shutting(Model m, NoonValley x, int i) {
     Check.promise(22, "shut");
-    int one = i % m.people;
-    int hour = 1 + i % 7 * (i % 3);
     if (m.lines.size() > 9) {
       return;
     }
+    for (int one = 0; one < m.people; one++) {
+      shutting(m, x, i, one, 1 + i % 7 * (i % 3));
+      shutting(m, x, i, one, 1 + (i * 5 + one * 7) % 24);
+    }
+  }
+
+  private static void shutting(Model m, NoonValley x, int i, int one, int hour) {
     int best = NONE;
     for (int set = 0; set < 1 << m.lines.size(); set++) {
       boolean fewer = best == NONE || Integer.bitCount(set) < Integer.bitCount(best);
