@@ -46,6 +46,7 @@ public final class EdgesTest {
     brokenByOne();
     waysOfAll();
     drawnRound();
+    drawnLong();
     taleHours();
     begun();
     fitting();
@@ -1139,6 +1140,19 @@ public final class EdgesTest {
       }
       Check.same("one", x.drawn(1, 0, seed), NONE);
       Check.same("eight", x.drawn(8, 0, seed), NONE);
+    }
+  }
+
+  /** The seeds that took the most hours of forty million: 21 is far from 60 still. */
+  private static void drawnLong() {
+    Check.promise(34, "drawn");
+    long[] seeds = {6794458803092294770L, -6733553985388087483L, 6443612741938314136L, 3831961818464148670L,
+        8896408276942937286L};
+    int[] hours = {14, 18, 17, 20, 21};
+    NoonValley x = new NoonValley();
+    for (int people = 3; people <= 7; people++) {
+      Check.same("by hand", drawnByHand(people, 0, seeds[people - 3]), hours[people - 3]);
+      Check.same(people + " people", x.drawn(people, 0, seeds[people - 3]), hours[people - 3]);
     }
   }
 
